@@ -846,8 +846,35 @@ public final class OracleTest {
         }
     }
 
+    /** Days by which the best policy is a rare one, as chance seldom finds them. */
+    private static final String[] RARE = {
+        "H252X00813X02327X03940A22114A08322A12006A13118A28201A23008A12312A13112A03307A10326A12018",
+        "H390H311X11315X12331X03944A19302A25313A23305A21106A15029A29227",
+        "H312H282X02435X00710X11919X13337A06127A19211A15007A17206A05021A28327A09102A19109A27011",
+        "H323H331X12129X00310X02532A28104A16126A14014A03318A20029A24022",
+        "H282H110H162X22334X10311X12731X23739A26001A08029A23108A04011A14301A16111A24123A14028A24316",
+        "H112H152H260X02738X01414A06107A12210A06109A13326A27310A22210A11128A13110A10017",
+        "H181H261H380X11723A02311A22013A11227A06329A10017A03106A16029A24323A26108",
+        "H183X00917A22224A11119A11220A00202A05321A17206A03311A23308",
+        "H112H193H373X12836X10508X01926A23330A24306A29023A01315A14309A21115A18229A01016"};
+    private static final int[] RARE_BEST = {103, 122, 123, 203, 223, 303, 320, 400, 402};
+
+    private void rareDays() {
+        for (int i = 0; i < RARE.length; i++) {
+            real = new SoftAsks();
+            model = new Model();
+            story.setLength(0);
+            writeText(RARE[i]);
+            due("best(2), as noted", real.best(2), RARE_BEST[i]);
+            for (int what = 0; what <= 2; what++) {
+                due("best(" + what + ")", real.best(what), model.best(what));
+            }
+        }
+    }
+
     private int go(int runs) {
         Model.tellParts();
+        rareDays();
         for (int i = 0; i < runs && wrong <= 5; i++) {
             real = new SoftAsks();
             model = new Model();

@@ -152,6 +152,15 @@ public final class PromisesTest {
         fault("H116", 3);
         fault("H11/", 3);
         fault("H11:", 3);
+        fault("H1:0", 2);
+        fault("H1/0", 2);
+        fault("A0:", 2);
+        fault("A:", 1);
+        fault("A0001:", 5);
+        fault("H110X01009", 8);
+        fault("H110X01019", NONE);
+        fault("H110X07069", 8);
+        fault("H110X07070", NONE);
         fault("H1101", 4);
         fault("H110H", 5);
         fault("X", 0);
@@ -521,6 +530,18 @@ public final class PromisesTest {
         x.set(3, 2);
         x.set(0, 1);
         counts("two of five", x, 0, 5, 2, 0, 0, 0);
+        // bad at 1, 5, 7 and 8: half of eight, the first of them counted
+        x = of("H110X00101X00505X00708A00001A01001A02001A03001A04001A05001A06001A07001");
+        x.set(3, 2);
+        x.set(0, 1);
+        due("three of seven", x.stand(7, 0, 2), 0);
+        due("four of eight", x.stand(8, 0, 2), 1);
+        counts("four of eight", x, 0, 8, 4, 0, 1, 0);
+        // a good one more at 8: the one of 1 is forgotten when it is bad at 9
+        x = of("H110X00101X00505X00707X00909A00001A01001A02001A03001A04001A05001A06001A07001A08001");
+        x.set(3, 2);
+        x.set(0, 1);
+        counts("three of the last eight of nine", x, 0, 9, 4, 0, 0, 0);
         // eight good, then three bad: of the last eight three are bad; one more: half
         x = of("H310X00409A00001A00001A00001A01001A01001A01001A02001A02001A03001A03001A03001A04001");
         x.set(3, 2);
