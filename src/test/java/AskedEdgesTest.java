@@ -11,8 +11,60 @@ public final class AskedEdgesTest {
     /** Twelve asks for twelve workers of four hosts: all are done at 1. */
     private static final String TWELVE = "H310H310H310H310" + "A00001".repeat(12);
 
+    /** For each policy a day by which it is the best one: its figures, GAIN, the text. */
+    private static final String[] BEST = {
+        "100 2 H170X01220A02327A06026A08228",
+        "101 2 H274X01130A22103A13010A09130A07003",
+        "102 2 H323X02332A23311A18306A25101A21207A06126",
+        "103 2 H285X01124X02741A38304A17111A21102A03220A21319A02221",
+        "110 4 H391H285X01230A20321A11221A20215",
+        "111 4 H375H292X00928A06105A14119A17315A07321",
+        "112 2 H131H181X00921A17209A10113A01217A04026A08122",
+        "113 2 H272H210X04152X11525X12934A11327A25313A30101A11024A31024A25301",
+        "120 2 H184H113X00827A19222A19023A18218",
+        "121 2 H320H295H325X00518A15228A03009A02105A06103A08106",
+        "122 2 H120H191X01433X01214A04230A05128A16220A19114A07119",
+        "123 2 H214H175X00514X01729A15320A20207A03318A11003A16106A03301A28321A19016",
+        "200 2 H160X00620A16223A03328A11109",
+        "201 8 H271X00927A13014A11121A09120",
+        "202 4 H242X00824A11109A24103A04225",
+        "203 4 H263X01532X00109A25304A02230A09021A06118",
+        "210 4 H360X00111A07105A05009A04118",
+        "211 4 H385X00822A19302A00330A04211",
+        "212 8 H293H225X11231A20217A12326A08017",
+        "213 8 H112H173X01722X00811A23013A16008A10020A17227A04214",
+        "220 4 H282X00822A09225A23019A11011",
+        "221 8 H152H344X00725A16309A04027A02323",
+        "222 8 H253H224X01325A19227A34302A09313",
+        "223 4 H384X02341X01416A35125A03214A06020A32311A22014",
+        "300 8 H130X02429A22015A21310A07112",
+        "301 8 H363X02032A29020A15120A26207",
+        "302 8 H125X00817A26301A08311A21014",
+        "303 8 H392X01823X00010A13204A01325A04020A00229",
+        "310 8 H350X00717A18024A06319A12206",
+        "311 8 H271H123X10825A09023A16316A07305",
+        "312 8 H322H171X00216A03107A12027A02222",
+        "313 8 H133H315X03248X12835X02428A27310A30219A13210A21309",
+        "320 8 H242X01221A09016A11311A11203",
+        "321 8 H244H382X00726A07324A16109A04329",
+        "322 8 H324H390X01725X11520A07229A06124A14123",
+        "323 8 H384H164X03345X01230X11121A07127A08213A23218A25010A24319A25025",
+        "400 8 H110X02845A09003A09206A10325",
+        "401 8 H313H381X02432A06105A26118A23122",
+        "402 8 H233X00614A03128A17302A12223",
+        "403 8 H384X01526X03651A00216A10215A34225A37310A27129",
+        "410 8 H290X00813A08213A01305A03310",
+        "411 8 H172H313X11721A16030A04106A17225",
+        "412 8 H152H353X11632X02342A09012A16015A12226",
+        "413 8 H344H230X12741X03448X01123A28118A07308A09218A22014A29023",
+        "420 8 H282H335X12645A30328A31315A19114",
+        "421 8 H194H314X10218A06321A03007A17207",
+        "422 8 H335H374X02741X01837X11127A07119A07229A12208",
+        "423 8 H334H184X02033X01216X11128X04352A09127A12013A01322A06120"};
+
     public static void main(String[] args) {
         bestIsMost();
+        bestIsEachOfThem();
         bestOfLikeOnes();
         bestAsTheyAre();
         judgeCounts();
@@ -59,6 +111,35 @@ public final class AskedEdgesTest {
         Edges.due("best(3)", x.best(3), BAD);
         Edges.due("best(lowest)", x.best(Edges.LOWEST), BAD);
         Edges.due("best(highest)", x.best(Edges.HIGHEST), BAD);
+    }
+
+    /** Each policy is told in turn; the best is found by what is done and wasted then. */
+    private static void bestIsEachOfThem() {
+        Edges.sentence("(TRIES, HEDGE, BREAKER as three figures; GAIN, SHED as they are) by which most ASKS are DONE");
+        Edges.due("policies", BEST.length, 4 * 3 * 4);
+        for (String row : BEST) {
+            String[] told = row.split(" ");
+            SoftAsks x = Edges.of(told[2]);
+            x.set(1, Integer.parseInt(told[1]));
+            int done = -1, wasted = 0, figures = 0;
+            for (int tries = 1; tries <= 4; tries++) {
+                x.set(0, tries);
+                for (int hedge = 0; hedge <= 2; hedge++) {
+                    x.set(2, hedge);
+                    for (int breaker = 0; breaker <= 3; breaker++) {
+                        x.set(3, breaker);
+                        int d = x.total(0), w = x.total(8);
+                        if (d > done || (d == done && w < wasted)) {
+                            done = d;
+                            wasted = w;
+                            figures = 100 * tries + 10 * hedge + breaker;
+                        }
+                    }
+                }
+            }
+            Edges.due("by turns, of " + row, figures, Integer.parseInt(told[0]));
+            best(row, x, done, wasted, figures);
+        }
     }
 
     private static void bestOfLikeOnes() {

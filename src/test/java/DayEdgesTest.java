@@ -49,6 +49,7 @@ public final class DayEdgesTest {
         forgotten();
         sentThoughGone();
         standsBehindBegins();
+        ofAll();
         Edges.finish("day edges");
     }
 
@@ -761,6 +762,18 @@ public final class DayEdgesTest {
         Edges.counts("a BAD one more", x, 0, 4, 4, 0, 1, 0);
         Edges.due("OPEN at TICK 6", x.stand(5, 0, 2), OPEN);
         Edges.due("HALF at TICK 7, as if it were not", x.stand(6, 0, 2), HALF);
+        // as many are bad while it is open as would open it
+        x = Edges.by("H313X00102A00030A00030A00030A00030A00030A00030", 1);
+        Edges.counts("three BAD ones more, by 1", x, 0, 6, 6, 0, 1, 0);
+        Edges.due("HALF at TICK 7", x.stand(6, 0, 2), HALF);
+        x = Edges.by("H315X00104A00030A00030A00030A01030A01030A01030A01030A01030A01030", 1, 2, 0, 2);
+        Edges.due("by 2 it is SHUT with three", x.stand(1, 0, 2), SHUT);
+        Edges.counts("by 2 it OPENS at the fourth", x, 0, 9, 9, 0, 1, 0);
+        Edges.due("OPEN at TICK 7", x.stand(6, 0, 2), OPEN);
+        Edges.due("HALF at TICK 8", x.stand(7, 0, 2), HALF);
+        x = Edges.by("H313X00102A00030A00030A00030A00030A00030A00030", 1, 2, 0, 3);
+        Edges.counts("three BAD ones more, by 3", x, 0, 6, 6, 0, 1, 0);
+        Edges.due("RATE stays 0", x.stand(2, 0, 4), 0);
         // the fourth is good at 2: it is open none the less
         x = Edges.by("H311X00101A00030A00030A00030A00030", 1);
         Edges.due("DONE while OPEN", x.ask(3, 3), DONE);
@@ -815,6 +828,27 @@ public final class DayEdgesTest {
         Edges.totals("SHED", Edges.by("H190A00030A00030", 1), 1, 1, 0, 2, 0, 0, 0, 1, 0, 12);
         Edges.totals("LOST", Edges.by("A00030A00030", 1), 0, 2, 0, 2, 0, 0, 2, 0, 0, 12);
         Edges.totals("LOST by AGAIN", Edges.by("A00030", 2), 0, 1, 0, 2, 1, 0, 2, 0, 0, 2);
+    }
+
+    private static void ofAll() {
+        Edges.sentence("Of all THE DAY how many ASKS are DONE (what = 0), FAILED (1), EXPIRED (2), COPIES that were SENT ..");
+        Edges.totals("no HOSTS, no ASKS", new SoftAsks(), 0, 0, 0, 0, 0, 0, 0, 0, 0, 8, Edges.bits(4), Edges.BAD);
+        // the fifth is put out by host 0; host 3's is past its limit
+        SoftAsks x = Edges.by("H190H190H190H190A00030A00030A00030A00008A00030", 1);
+        float learnt = 4;
+        for (int i = 0; i < 3; i++) {
+            learnt = learnt + 0.25f * (9 - learnt);
+        }
+        Edges.totals("four HOSTS", x, 3, 1, 1, 5, 0, 0, 0, 1, 1, 18, Edges.bits(learnt));
+        x.turn(0);
+        x.turn(1);
+        x.turn(2);
+        // host 3 has the first, the others are put out
+        Edges.totals("the fourth HOST", x, 1, 4, 0, 5, 0, 0, 0, 4, 0, 18, Edges.bits(5.25));
+        Edges.counts("the fourth HOST", x, 3, 1, 0, 0, 0, 4);
+        // twelve asks, each at its limit, in a host of three workers at a time
+        x = Edges.by("H315" + "A00001".repeat(12), 1);
+        Edges.totals("twelve ASKS", x, 3, 4, 5, 12, 0, 0, 0, 4, 0, 32);
     }
 
     private static void standsBehindBegins() {

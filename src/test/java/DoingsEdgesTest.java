@@ -14,6 +14,7 @@ public final class DoingsEdgesTest {
         turns();
         outAtFirst();
         fourteenDoings();
+        doingsOfAllSorts();
         setAsItWas();
         undone();
         twoSlots();
@@ -137,6 +138,35 @@ public final class DoingsEdgesTest {
             Edges.due("undo()", x.undo(), i);
         }
         Edges.due("the first one stays OUT", x.about(8), 2);
+    }
+
+    private static int[] standing(SoftAsks x) {
+        int[] all = new int[6];
+        for (int i = 0; i < 6; i++) {
+            all[i] = x.about(3 + i);
+        }
+        return all;
+    }
+
+    private static void doingsOfAllSorts() {
+        Edges.sentence("(14 at most; when it is full, the first one is forgotten); the last one can be undone");
+        // a host is turned, or a setting is told: what, v
+        int[][] doings = {{-1, 0}, {0, 3}, {1, 5}, {2, 1}, {-1, 1}, {3, 2}, {4, 1}, {0, 4}, {-1, 0}, {1, 8}, {4, 2}, {2, 2},
+            {3, 0}, {-1, 2}, {1, 0}, {0, 1}, {-1, 1}, {3, 3}};
+        for (int told = 1; told <= doings.length; told++) {
+            SoftAsks x = Edges.of("H110H110H110");
+            int[][] stood = new int[told][];
+            for (int i = 0; i < told; i++) {
+                stood[i] = standing(x);
+                int answer = doings[i][0] < 0 ? x.turn(doings[i][1]) : x.set(doings[i][0], doings[i][1]);
+                Edges.so("doing " + i + " is done", answer >= 0);
+            }
+            for (int i = told - 1; i >= Math.max(0, told - 14); i--) {
+                x.undo();
+                Edges.abouts("doing " + i + " of " + told + " undone", x, 3, stood[i]);
+            }
+            Edges.due("none is left of " + told, x.undo(), LATE);
+        }
     }
 
     private static void setAsItWas() {

@@ -222,6 +222,12 @@ public final class TextEdgesTest {
         fault(H + "X04544", 9);
         fault(H + "X04539", 8);
         fault(H + "X04546", NONE);
+        for (int from = 0; from <= 79; from++) {
+            for (int to = 0; to <= 99; to++) {
+                boolean first = to / 10 < from / 10 || to > 79;
+                fault(String.format("%sX0%02d%02d", H, from, to), first ? 8 : to < from ? 9 : NONE);
+            }
+        }
     }
 
     private static void asksTwelveAtMost() {
@@ -248,6 +254,12 @@ public final class TextEdgesTest {
         Edges.due("40", Edges.of("A40001").ask(0, 0), 40);
         fault("A41001", 2);
         fault("A50001", 1);
+        for (int hour = 0; hour <= 99; hour++) {
+            fault(String.format("A%02d001", hour), hour <= 40 ? NONE : hour < 50 ? 2 : 1);
+        }
+        for (int hour = 0; hour <= 40; hour++) {
+            Edges.due("HOUR " + hour, Edges.of(String.format("A%02d001", hour)).ask(0, 0), hour);
+        }
     }
 
     private static void ranks() {
@@ -271,6 +283,12 @@ public final class TextEdgesTest {
         fault("A00000", 5);
         fault("A00031", 5);
         fault("A00040", 4);
+        for (int limit = 1; limit <= 99; limit++) {
+            fault(String.format("A000%02d", limit), limit <= 30 ? NONE : limit < 40 ? 5 : 4);
+        }
+        for (int limit = 1; limit <= 30; limit++) {
+            Edges.due("LIMIT " + limit, Edges.of(String.format("A000%02d", limit)).ask(0, 2), limit);
+        }
     }
 
     private static void onlyNotAtItsEnd() {
