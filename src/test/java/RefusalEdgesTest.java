@@ -72,7 +72,7 @@ public final class RefusalEdgesTest {
         x.turn(0);
         x.turn(1);
         for (int i = 0; i < 6; i++) {
-            x.see(0, i % 2);
+            x.see(0, 0);
         }
         x.keep(0);
         x.keep(1);
@@ -87,6 +87,7 @@ public final class RefusalEdgesTest {
         Edges.abouts("busy", busy(), 0, 3, 6, 2, 3, 5, 1, 2, 0, 0, 6, 2, 15);
         Edges.abouts("gone on", goneOn(), 0, 2, 2, 0, 4, 2, 0, 1, 2, 1, 0, 0, 5);
         Edges.abouts("full", full(), 0, 2, 1, 0, 2, 2, 0, 1, 0, 3, 14, 6, 120);
+        Edges.due("full: what is seen can be", full().which(), 3);
         SoftAsks x = busy();
         x.write('4');
         Edges.due("a 4 makes its text a day", x.day(), 1);
