@@ -1,5 +1,8 @@
+import java.lang.reflect.Method;
 import java.util.ArrayList;
 import java.util.List;
+import java.util.regex.Matcher;
+import java.util.regex.Pattern;
 
 /** What the tests of the edges share: answers that are due, days by their text, and all that an object holds. */
 final class Edges {
@@ -14,6 +17,8 @@ final class Edges {
     interface Call {
         long on(SoftAsks x);
     }
+
+    private static final Pattern A_CALL = Pattern.compile("(\\w+)\\(([^()]*)\\)");
 
     private static String sentence = "";
     private static int wrong = 0;
@@ -102,6 +107,44 @@ final class Edges {
         for (int i = 0; i < want.length; i++) {
             due(when + ": stand(" + t + ", " + host + ", " + i + ")", x.stand(t, host, i), want[i]);
         }
+    }
+
+    /** Calls as they are written in Java, one behind the other, "set(2, 1) total(5)": what the last one answers. */
+    static long said(SoftAsks x, String calls) {
+        long answer = 0;
+        Matcher m = A_CALL.matcher(calls);
+        while (m.find()) {
+            answer = said(x, m.group(1), m.group(2).isEmpty() ? new String[0] : m.group(2).split(",\\s*"));
+        }
+        return answer;
+    }
+
+    private static long said(SoftAsks x, String name, String[] told) {
+        for (Method m : SoftAsks.class.getMethods()) {
+            Class<?>[] kinds = m.getParameterTypes();
+            if (m.getName().equals(name) && kinds.length == told.length && m.getDeclaringClass() == SoftAsks.class) {
+                Object[] given = new Object[told.length];
+                for (int i = 0; i < told.length; i++) {
+                    given[i] = value(kinds[i], told[i]);
+                }
+                try {
+                    return ((Number) m.invoke(x, given)).longValue();
+                } catch (ReflectiveOperationException e) {
+                    throw new IllegalStateException(name + " threw", e);
+                }
+            }
+        }
+        throw new IllegalArgumentException("no call " + name + " of " + told.length);
+    }
+
+    private static Object value(Class<?> kind, String told) {
+        if (kind == boolean.class) {
+            return Boolean.valueOf(told);
+        }
+        if (kind == long.class) {
+            return Long.valueOf(told);
+        }
+        return told.startsWith("'") ? (Object) (int) told.charAt(1) : Integer.valueOf(told);
     }
 
     static void refused(String call, Scene scene, Call c, long want) {
