@@ -334,6 +334,16 @@ public final class AskedEdgesTest {
         Edges.due("see(0, 2), full", x.see(0, 2), BAD);
         Edges.due("see(2, 0), full", x.see(2, 0), UNKNOWN);
         Edges.due("six", x.about(10), 6);
+        Edges.due("1 was DONE, 0 was not", x.which(), 1);
+        for (int sixth = 0; sixth < 2; sixth++) {
+            x = Edges.of("H110H110A00001A00001");
+            for (int i = 1; i <= 5; i++) {
+                x.see(0, 0);
+                Edges.due("ask 0 was not DONE, " + i + " times", x.which(), 1);
+            }
+            x.see(0, sixth);
+            Edges.due("the sixth counts, too", x.which(), sixth == 0 ? 1 : 0);
+        }
         Edges.due("of no ASKS", new SoftAsks().see(0, 0), UNKNOWN);
         Edges.due("the last of twelve", Edges.of(TWELVE).see(11, 1), 1);
         Edges.due("one more than twelve", Edges.of(TWELVE).see(12, 1), UNKNOWN);

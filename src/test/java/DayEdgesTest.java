@@ -30,6 +30,7 @@ public final class DayEdgesTest {
         wasted();
         limits();
         goneWhenExpired();
+        goneFromAllHosts();
         comes();
         budgetAtMost();
         againByTries();
@@ -39,6 +40,8 @@ public final class DayEdgesTest {
         hedgesOneCopy();
         hedgesOnce();
         hedgesByBudget();
+        hedgesAsItsTurnComes();
+        hedgesJustOlder();
         begins();
         notesByNone();
         notesInARow();
@@ -49,6 +52,7 @@ public final class DayEdgesTest {
         forgotten();
         sentThoughGone();
         standsBehindBegins();
+        standsBehindTheLastTick();
         ofAll();
         Edges.finish("day edges");
     }
@@ -460,6 +464,19 @@ public final class DayEdgesTest {
         Edges.stands("worked at", Edges.of("H190A00005"), 5, 0, 0, 1);
     }
 
+    private static void goneFromAllHosts() {
+        Edges.sentence("ASKS that are OPEN and for which T is HOUR plus LIMIT .. are EXPIRED at T; their COPIES that wait are gone");
+        // all are hedged at 5: ask 2 waits at both hosts, at host 0 first, at host 1 behind ask 0
+        SoftAsks x = Edges.by("H195H195A00030A00030A00008", 2, 8, 1);
+        Edges.stands("ask 2 and ask 1 wait", x, 7, 0, 2, 1, SHUT, 2);
+        Edges.stands("ask 0 and ask 2 wait", x, 7, 1, 2, 1, SHUT, 0);
+        Edges.stands("ask 2 is gone", x, 8, 0, 1, 1, SHUT, 1);
+        Edges.stands("ask 2 is gone here, too", x, 8, 1, 1, 1, SHUT, 0);
+        Edges.ends("ask 2", x, 2, EXPIRED, 8, NONE, 1, 1);
+        Edges.due("works that end at host 0", x.host(0, 3), 1);
+        Edges.due("works that end at host 1", x.host(1, 3), 1);
+    }
+
     private static void comes() {
         Edges.sentence("each ASK whose HOUR is T, 0 first, is OPEN .. a COPY is SENT: that is its first TRY");
         Edges.ends("at 0", Edges.of("H110A00030"), 0, DONE, 1, 0, 1, 0);
@@ -613,6 +630,26 @@ public final class DayEdgesTest {
         x = Edges.by("H190H190A00030", 2, 0, 1);
         Edges.due("8: HEDGED", x.ask(0, 7), 1);
         Edges.due("none is left", x.total(9), 0);
+    }
+
+    private static void hedgesAsItsTurnComes() {
+        Edges.sentence("each ASK that .. has just one COPY .. 0 first (as it is when its turn comes)");
+        // bad at 8 at host 1, where ask 1 is sent again; the hedge of ask 0 puts it out there, ahead of its turn
+        SoftAsks x = Edges.by("H160H150X10010A03110A03010", 2, 8, 1, 1, 1);
+        Edges.stands("its copy is put out by a hedge", x, 8, 1, 0, 1, SHUT);
+        Edges.ends("ask 0", x, 0, DONE, 9, 0, 1, 1);
+        Edges.ends("ask 1 has none at its turn: not HEDGED, FAILED at the next TICK", x, 1, FAILED, 9, NONE, 2, 0);
+        Edges.totals("one hedge", x, 1, 1, 0, 4, 1, 1, 0, 1, 1, 8);
+    }
+
+    private static void hedgesJustOlder() {
+        Edges.sentence("is older (T less HOUR) than HEDGE times LEARNT");
+        // done after 1, 2, 2, 3, 1, 1, 2, from 4 on: LEARNT is 1.99981689453125 at 7
+        SoftAsks x = Edges.by("H112A01002A00001A05001A05002A00002A01003A05010A04001", 2, 2, 1);
+        Edges.stands("2 is older than a bit less than 2", x, 7, 0, 0, 1);
+        Edges.ends("HEDGED at 7", x, 6, DONE, 8, 0, 1, 1);
+        Edges.due("HEDGES", x.total(5), 1);
+        Edges.due("LOST, as there is no other host", x.total(6), 1);
     }
 
     private static void begins() {
@@ -828,6 +865,16 @@ public final class DayEdgesTest {
         Edges.totals("SHED", Edges.by("H190A00030A00030", 1), 1, 1, 0, 2, 0, 0, 0, 1, 0, 12);
         Edges.totals("LOST", Edges.by("A00030A00030", 1), 0, 2, 0, 2, 0, 0, 2, 0, 0, 12);
         Edges.totals("LOST by AGAIN", Edges.by("A00030", 2), 0, 1, 0, 2, 1, 0, 2, 0, 0, 2);
+    }
+
+    private static void standsBehindTheLastTick() {
+        Edges.sentence("its BREAKER (2: .. as it will be at the next TICK)");
+        // ask 0 is done at 47; ask 1 waits till then, and is bad at 56, 65, 74
+        SoftAsks x = Edges.by("H191X05674A38030A40030", 3, 8);
+        Edges.stands("behind 73", x, 73, 0, 0, 1, SHUT);
+        Edges.stands("it opens at 74", x, 74, 0, 0, 0, OPEN);
+        Edges.stands("79 is the sixth tick", x, 78, 0, 0, 0, OPEN);
+        Edges.stands("behind the last one it is half open", x, 79, 0, 0, 0, HALF);
     }
 
     private static void ofAll() {

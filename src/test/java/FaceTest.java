@@ -36,6 +36,7 @@ public final class FaceTest {
         constants();
         nested();
         source();
+        asTheDocumentHasIt();
         System.out.println(wrong == 0 ? "face: all as due" : "face: " + wrong + " wrong");
         if (wrong != 0) {
             System.exit(1);
@@ -45,6 +46,7 @@ public final class FaceTest {
     private static void face() {
         Class<?> c = SoftAsks.class;
         check(Modifier.isPublic(c.getModifiers()) && Modifier.isFinal(c.getModifiers()), "public final class");
+        check(c.getSuperclass() == Object.class && c.getInterfaces().length == 0, "of no other class or interface");
         Constructor<?>[] all = c.getDeclaredConstructors();
         check(all.length == 1 && Modifier.isPublic(all[0].getModifiers()) && all[0].getParameterCount() == 0,
             "one public constructor without parameters");
@@ -57,11 +59,30 @@ public final class FaceTest {
             names.add(m.getName());
             String parameters = Arrays.toString(m.getParameterTypes()).replace("[", "").replace("]", "");
             found.add(m.getReturnType() + " " + m.getName() + "(" + parameters + ")");
-            check(Modifier.isPublic(m.getModifiers()) && !Modifier.isStatic(m.getModifiers()), m.getName() + " is public");
+            check(m.getModifiers() == Modifier.PUBLIC, m.getName() + " is public, and no more");
+            check(m.getExceptionTypes().length == 0, m.getName() + " tells of no exception");
         }
         check(found.equals(METHODS), "the methods are " + found);
         hidden.retainAll(names);
         check(hidden.isEmpty(), "private methods have other names: " + hidden);
+    }
+
+    /** Each line of the document's face stands in the source, by its parameters' names too, and in its order. */
+    private static void asTheDocumentHasIt() throws IOException {
+        String doc = new String(Files.readAllBytes(Path.of("../shared/DOC.md")), java.nio.charset.StandardCharsets.UTF_8);
+        String source = new String(Files.readAllBytes(Path.of(SOURCE)), java.nio.charset.StandardCharsets.UTF_8);
+        Matcher face = Pattern.compile("(?s)```java\n(public final class SoftAsks \\{.*?)\n\\}").matcher(doc);
+        check(face.find(), "the document has a face");
+        int place = 0;
+        String[] lines = face.group(1).split("\n");
+        for (String line : lines) {
+            String told = line.trim();
+            String due = told.endsWith(");") ? told.substring(0, told.length() - 1) + " {" : told;
+            int at = source.indexOf(due, place);
+            check(at >= place, "the source has, in its order: " + told);
+            place = Math.max(place, at);
+        }
+        check(lines.length == METHODS.size() + 3, "the class, its constants, its constructor, its methods");
     }
 
     private static void constants() throws Exception {
